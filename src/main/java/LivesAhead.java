@@ -95,7 +95,7 @@ public final class LivesAhead {
     private int outLength = 0;
     private int cutBits = NONE;
     private int cutLength = NONE;
-    private int[] weekPeople = new int[0];
+    private final ArrayList<Person> weekPeople = new ArrayList<>();
     private int weekHours = NONE;
 
     /** Promise 1. */
@@ -155,7 +155,7 @@ public final class LivesAhead {
         if (people.size() >= MOST_PEOPLE) {
             return refused(NO_ROOM);
         }
-        people.add(new Person(name, born, worth, writer));
+        people.add(new Person(people.size(), name, born, worth, writer));
         return granted(people.size() - 1);
     }
 
@@ -508,7 +508,7 @@ public final class LivesAhead {
         if (of == null || of.isDead()) {
             return refused(NO_SUCH);
         }
-        return granted(asNumber(isProven(of, reportsOf(person))));
+        return granted(asNumber(isProven(of, proofsOf(person))));
     }
 
     /** Promise 33. */
@@ -520,7 +520,7 @@ public final class LivesAhead {
         if (of.isDead()) {
             return refused(NOT_SO);
         }
-        int[] proofs = reportsOf(person);
+        ArrayList<Report> proofs = proofsOf(person);
         if (!isProven(of, proofs)) {
             return refused(NOT_SO);
         }
@@ -690,21 +690,22 @@ public final class LivesAhead {
         if (of == null) {
             return refused(NO_SUCH);
         }
-        int[] gains = gainsOf(writer);
-        int[] stories = storiesToWeigh(gains);
+        weekPeople.clear();
+        gatherStories(writer);
         chooser.begin(of.hours, 0);
-        for (int i = 0; i < stories.length; i++) {
-            chooser.offer(gains[stories[i]], hoursFor(people.get(stories[i])), NONE, true);
+        for (int i = 0; i < weekPeople.size(); i++) {
+            Person next = weekPeople.get(i);
+            chooser.offer(next.gain, hoursFor(next), NONE, true);
         }
         chooser.choose();
         weekHours = chooser.bestCost;
-        weekPeople = chosenOf(stories, chooser.bestBits);
+        keepChosen(chooser.bestBits);
         return granted(chooser.bestGain);
     }
 
     /** Promise 45. */
     public int fresh(int i) {
-        return within(i, 0, weekPeople.length - 1) ? weekPeople[i] : NONE;
+        return within(i, 0, weekPeople.size() - 1) ? weekPeople.get(i).number : NONE;
     }
 
     /** Promise 46. */
@@ -715,11 +716,8 @@ public final class LivesAhead {
     /** Promise 47. */
     public int freshen() {
         int checked = 0;
-        for (int i = 0; i < weekPeople.length; i++) {
-            Person of = personAt(weekPeople[i]);
-            if (of != null) {
-                checked += checkStale(of);
-            }
+        for (int i = 0; i < weekPeople.size(); i++) {
+            checked += checkStale(weekPeople.get(i));
         }
         return checked;
     }
@@ -940,10 +938,12 @@ public final class LivesAhead {
         int unsure = withoutMarked ? unsureKinds(of) : 0;
         fillPrinter(of);
         chooser.begin(length, 1);
-        for (int place = 0; place < of.paragraphs; place++) {
+        for (int place = 0; place < of.paragraphs && place < STORY_PARAGRAPHS; place++) {
             Text text = of.texts[place];
-            printer.run(text.steps, false);
-            chooser.offer(of.worths[place], printer.length, of.leans[place], (text.kinds & unsure) == 0);
+            if (text != null) {
+                printer.run(text.steps, false);
+                chooser.offer(of.worths[place], printer.length, of.leans[place], (text.kinds & unsure) == 0);
+            }
         }
         chooser.choose();
     }
@@ -978,21 +978,19 @@ public final class LivesAhead {
         return fitting;
     }
 
-    private int[] reportsOf(int person) {
-        int[] found = new int[reports.size()];
-        int many = 0;
-        for (int i = 0; i < found.length; i++) {
+    private ArrayList<Report> proofsOf(int person) {
+        ArrayList<Report> proofs = new ArrayList<>();
+        for (int i = 0; i < reports.size(); i++) {
             Report heard = reports.get(i);
             if (!heard.withdrawn && personOf(heard) == person) {
-                found[many] = i;
-                many++;
+                proofs.add(heard);
             }
         }
-        return Arrays.copyOf(found, many);
+        return proofs;
     }
 
-    private boolean isProven(Person of, int[] proofs) {
-        if (proofs.length == 0) {
+    private boolean isProven(Person of, ArrayList<Report> proofs) {
+        if (proofs.isEmpty()) {
             return false;
         }
         fillProofs(of, proofs);
@@ -1004,13 +1002,13 @@ public final class LivesAhead {
         return false;
     }
 
-    private void fillProofs(Person of, int[] proofs) {
+    private void fillProofs(Person of, ArrayList<Report> proofs) {
         Arrays.fill(printer.names, 0);
         printer.names[AGE] = ageOf(of);
         printer.names[WORTH] = of.worth;
         int first = now;
-        for (int i = 0; i < proofs.length; i++) {
-            Report heard = reports.get(proofs[i]);
+        for (int i = 0; i < proofs.size(); i++) {
+            Report heard = proofs.get(i);
             int name = KIN + heard.source;
             if (printer.names[name] == 0) {
                 printer.names[SOURCES_HEARD]++;
@@ -1021,14 +1019,14 @@ public final class LivesAhead {
         printer.names[HOURS_SINCE] = (now - first) / 60;
     }
 
-    private int dayMostSaid(int[] proofs) {
+    private static int dayMostSaid(ArrayList<Report> proofs) {
         int best = NONE;
         int most = 0;
-        for (int i = 0; i < proofs.length; i++) {
-            int day = reports.get(proofs[i]).day;
+        for (int i = 0; i < proofs.size(); i++) {
+            int day = proofs.get(i).day;
             int say = 0;
-            for (int j = 0; j < proofs.length; j++) {
-                say += asNumber(reports.get(proofs[j]).day == day);
+            for (int j = 0; j < proofs.size(); j++) {
+                say += asNumber(proofs.get(j).day == day);
             }
             if (say > most || say == most && day < best) {
                 best = day;
@@ -1076,9 +1074,10 @@ public final class LivesAhead {
 
     private static void layFacts(Edition laid, Person of) {
         int kinds = 0;
-        for (int place = 0; place < of.paragraphs; place++) {
-            if ((laid.paragraphs & 1 << place) != 0) {
-                kinds |= of.texts[place].kinds;
+        for (int place = 0; place < of.paragraphs && place < STORY_PARAGRAPHS; place++) {
+            Text text = of.texts[place];
+            if (text != null && (laid.paragraphs & 1 << place) != 0) {
+                kinds |= text.kinds;
             }
         }
         laid.kinds = kinds & of.kindsTold();
@@ -1106,15 +1105,36 @@ public final class LivesAhead {
 
     // ---- weeks of writers
 
-    private int[] gainsOf(int writer) {
-        int[] gains = new int[people.size()];
-        for (int i = 0; i < gains.length; i++) {
+    private void gatherStories(int writer) {
+        for (int i = 0; i < people.size(); i++) {
             Person of = people.get(i);
-            if (of.writer == writer && !of.isDead()) {
-                gains[i] = chanceOf(of) * of.worth * Integer.bitCount(staleKinds(of, today()));
+            int stale = of.isDead() ? 0 : Integer.bitCount(staleKinds(of, today()));
+            if (of.writer == writer && stale > 0) {
+                of.gain = chanceOf(of) * of.worth * stale;
+                weekPeople.add(of);
             }
         }
-        return gains;
+        for (int over = weekPeople.size() - WEEK_STORIES; over > 0; over--) {
+            weekPeople.remove(placeOfLeast(weekPeople));
+        }
+    }
+
+    private static int placeOfLeast(ArrayList<Person> stories) {
+        int least = 0;
+        for (int i = 1; i < stories.size(); i++) {
+            if (stories.get(i).gain <= stories.get(least).gain) {
+                least = i;
+            }
+        }
+        return least;
+    }
+
+    private void keepChosen(int bits) {
+        for (int i = weekPeople.size() - 1; i >= 0; i--) {
+            if ((bits & 1 << i) == 0) {
+                weekPeople.remove(i);
+            }
+        }
     }
 
     private int chanceOf(Person of) {
@@ -1139,39 +1159,6 @@ public final class LivesAhead {
         return 1 + (Integer.bitCount(staleKinds(of, today())) + 2) / 3;
     }
 
-    private static int[] storiesToWeigh(int[] gains) {
-        int[] stories = new int[WEEK_STORIES];
-        int many = 0;
-        for (int i = 0; i < gains.length; i++) {
-            if (gains[i] > 0 && many < stories.length && betterThan(gains, i) < WEEK_STORIES) {
-                stories[many] = i;
-                many++;
-            }
-        }
-        return Arrays.copyOf(stories, many);
-    }
-
-    private static int betterThan(int[] gains, int story) {
-        int better = 0;
-        for (int i = 0; i < gains.length; i++) {
-            boolean more = gains[i] > gains[story];
-            better += asNumber(more || gains[i] == gains[story] && i < story);
-        }
-        return better;
-    }
-
-    private static int[] chosenOf(int[] stories, int bits) {
-        int[] chosen = new int[stories.length];
-        int many = 0;
-        for (int i = 0; i < stories.length; i++) {
-            if ((bits & 1 << i) != 0) {
-                chosen[many] = stories[i];
-                many++;
-            }
-        }
-        return Arrays.copyOf(chosen, many);
-    }
-
     // ---- what the desk keeps
 
     private static final class Writer {
@@ -1184,6 +1171,7 @@ public final class LivesAhead {
     }
 
     private static final class Person {
+        final int number;
         final int name;
         final int born;
         final int worth;
@@ -1191,13 +1179,15 @@ public final class LivesAhead {
         int deathDay = NOBODY_YET;
         boolean peril = false;
         int embargo = 0;
+        int gain = 0;
         final Telling[] facts = new Telling[KINDS];
         final Text[] texts = new Text[STORY_PARAGRAPHS];
         final int[] worths = new int[STORY_PARAGRAPHS];
         final int[] leans = new int[STORY_PARAGRAPHS];
         int paragraphs = 0;
 
-        Person(int name, int born, int worth, int writer) {
+        Person(int number, int name, int born, int worth, int writer) {
+            this.number = number;
             this.name = name;
             this.born = born;
             this.worth = worth;
@@ -1435,10 +1425,15 @@ public final class LivesAhead {
         Text read(int n, boolean rule) {
             begin(n, rule);
             for (int step = 0; step < n && at < end && fault == 0; step++) {
+                int sign = byteAt(at);
                 if (state == PLAIN) {
-                    readPlain(byteAt(at));
+                    readPlain(sign);
+                } else if (isLetter(sign)) {
+                    readWord();
+                } else if (isDigit(sign)) {
+                    readWhole();
                 } else {
-                    readWithin(byteAt(at));
+                    readSign(sign);
                 }
             }
             if (fault == 0) {
@@ -1525,15 +1520,15 @@ public final class LivesAhead {
         }
 
         private void turnToElse() {
-            int within = depth - 1;
-            if (within < 0 || last == NOTHING || (elses & 1 << within) != 0) {
+            int level = depth - 1;
+            if (level < 0 || level >= MOST_IFS || last == NOTHING || (elses & 1 << level) != 0) {
                 fail(FORM, at);
                 return;
             }
             int over = emit(SKIP, 0);
-            aimSkip(within);
-            skips[within] = over;
-            elses |= 1 << within;
+            aimSkip(level);
+            skips[level] = over;
+            elses |= 1 << level;
             last = NOTHING;
         }
 
@@ -1548,9 +1543,9 @@ public final class LivesAhead {
             last = BRACES;
         }
 
-        private void aimSkip(int within) {
-            if (within >= 0 && within < MOST_IFS) {
-                int place = skips[within];
+        private void aimSkip(int level) {
+            if (level >= 0 && level < MOST_IFS) {
+                int place = skips[level];
                 if (place >= 0 && place < MOST_STEPS) {
                     steps[place] |= size;
                 }
@@ -1558,19 +1553,6 @@ public final class LivesAhead {
         }
 
         // ---- tokens within braces, and of rules
-
-        private void readWithin(int sign) {
-            if (sign == ' ') {
-                at++;
-            } else if (isLetter(sign)) {
-                readWord();
-            } else if (isDigit(sign)) {
-                readWhole();
-            } else {
-                readSign(sign);
-                at++;
-            }
-        }
 
         private static boolean isLetter(int sign) {
             return sign >= 'a' && sign <= 'z';
@@ -1745,31 +1727,68 @@ public final class LivesAhead {
         }
 
         private void readSign(int sign) {
-            boolean afterTerm = within(state, AFTER_PRINTED, AFTER_RIGHT);
-            if ((sign == '+' || sign == '-') && afterTerm) {
-                if (sign == '-') {
-                    emit(MINUS, 0);
-                }
-                state = state - AFTER_PRINTED + TERM_PRINTED;
-            } else if ((sign == '<' || sign == '>' || sign == '=') && state == AFTER_LEFT) {
-                emit(RELATE, sign);
-                state = TERM_RIGHT;
-            } else if (sign == '}' && state == AFTER_PRINTED) {
-                emit(SAY_SUM, 0);
-                state = PLAIN;
-            } else if (sign == ':' && !ofRule && (state == AFTER_RIGHT || state == AFTER_ONE)) {
-                enterIf();
-            } else {
-                fail(FORM, at);
+            switch (sign) {
+                case ' ':
+                    break;
+                case '+':
+                case '-':
+                    goOnAdding(sign);
+                    break;
+                case '<':
+                case '>':
+                case '=':
+                    relate(sign);
+                    break;
+                case '}':
+                    closeSum();
+                    break;
+                case ':':
+                    enterIf();
+                    break;
+                default:
+                    fail(FORM, at);
+                    break;
             }
+            at++;
+        }
+
+        private void goOnAdding(int sign) {
+            if (!within(state, AFTER_PRINTED, AFTER_RIGHT)) {
+                fail(FORM, at);
+                return;
+            }
+            if (sign == '-') {
+                emit(MINUS, 0);
+            }
+            state = state - AFTER_PRINTED + TERM_PRINTED;
+        }
+
+        private void relate(int sign) {
+            if (state != AFTER_LEFT) {
+                fail(FORM, at);
+                return;
+            }
+            emit(RELATE, sign);
+            state = TERM_RIGHT;
+        }
+
+        private void closeSum() {
+            if (state != AFTER_PRINTED) {
+                fail(FORM, at);
+                return;
+            }
+            emit(SAY_SUM, 0);
+            state = PLAIN;
         }
 
         private void enterIf() {
             closeComparison();
-            if (depth < MOST_IFS) {
-                skips[depth] = emit(SKIP_UNLESS, 0);
-                depth++;
+            if (state != AFTER_ONE || ofRule || depth >= MOST_IFS) {
+                fail(FORM, at);
+                return;
             }
+            skips[depth] = emit(SKIP_UNLESS, 0);
+            depth++;
             last = NOTHING;
             state = PLAIN;
         }
@@ -1936,7 +1955,7 @@ public final class LivesAhead {
 
         // Those with the earlier one are tried first, so what is only as good as the best never takes its place.
         private static void pick(Chooser of, int i, int bits, int gain, int cost) {
-            int hope = i < of.hopes.length ? gain + of.hopes[i] : NONE;
+            int hope = i <= STORY_PARAGRAPHS ? gain + of.hopes[i] : NONE;
             if (cost > of.limit || hope < of.bestGain || hope == of.bestGain && cost >= of.bestCost) {
                 return;
             }
