@@ -11,7 +11,7 @@ public final class LivesAhead {
     public static final int NONE = -1;
 
     private static final int NO_VALUE = -2147483648;
-    private static final int NOBODY_YET = -2;
+    private static final int NONE_YET = -2;
     private static final int MORE_THAN_ONE = -3;
 
     private static final int NO_SUCH = 1;
@@ -305,7 +305,7 @@ public final class LivesAhead {
                 return kind;
             }
         }
-        return NOBODY_YET;
+        return NONE_YET;
     }
 
     // ---- paragraphs
@@ -966,10 +966,10 @@ public final class LivesAhead {
         if (heard.person != NONE) {
             return heard.person;
         }
-        int fitting = NOBODY_YET;
+        int fitting = NONE_YET;
         for (int i = 0; i < people.size(); i++) {
             if (heard.suits(people.get(i))) {
-                if (fitting != NOBODY_YET) {
+                if (fitting != NONE_YET) {
                     return MORE_THAN_ONE;
                 }
                 fitting = i;
@@ -1176,7 +1176,7 @@ public final class LivesAhead {
         final int born;
         final int worth;
         int writer;
-        int deathDay = NOBODY_YET;
+        int deathDay = NONE_YET;
         boolean peril = false;
         int embargo = 0;
         int gain = 0;
@@ -1326,7 +1326,7 @@ public final class LivesAhead {
         final int day;
         int bytes = 0;
         int paragraphs = 0;
-        int picture = NOBODY_YET;
+        int picture = NONE_YET;
         int quotes = 0;
         int kinds = 0;
         int corrections = 0;

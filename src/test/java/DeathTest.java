@@ -73,6 +73,8 @@ public final class DeathTest {
 
     private static void holds(String rule, boolean want) {
         LivesAhead x = desk();
+        x.withdraw(x.report(0, 0, 0));
+        x.pass(100);
         x.report(0, 0, 0);
         x.report(0, 0, 0);
         x.pass(30);
@@ -80,10 +82,13 @@ public final class DeathTest {
         x.report(0, 0, 3);
         x.report(0, 0, 3);
         x.report(0, 0, 3);
+        x.report(0, 0, 3);
         x.report(1, 0, 4);
         x.withdraw(x.report(0, 0, 2));
-        x.pass(89);
-        Check.granted(x, "rule '" + rule + "'", Check.rule(x, rule), 1);
+        x.pass(210);
+        Check.rule(x, "kin > 99");
+        Check.granted(x, "rule '" + rule + "'", Check.rule(x, rule), 2);
+        x.may(0);
         Check.granted(x, "may by '" + rule + "'", x.may(0), want ? 1 : 0);
     }
 
@@ -91,16 +96,16 @@ public final class DeathTest {
         holds("kin = 2", true);
         holds("doctor = 1", true);
         holds("office = 0", true);
-        holds("agency = 3", true);
+        holds("agency = 4", true);
         holds("rival = 0", true);
         holds("sources = 3", true);
-        holds("hours = 1", true);
+        holds("hours = 4", true);
         holds("age = 60", true);
         holds("worth = 50", true);
         holds("not kin = 2", false);
         holds("kin > 2 or doctor > 0", true);
         holds("kin > 1 and doctor > 1", false);
-        holds("kin + doctor + agency - 6 = office", true);
+        holds("kin + doctor + agency - 7 = office", true);
         holds("kin < 2 or doctor < 1 or rival > 0", false);
         holds("1 = 1", true);
     }
@@ -154,6 +159,7 @@ public final class DeathTest {
             Check.due("fits two", x.fits(i), -3);
         }
         Check.due("fits nobody", x.fits(4), -2);
+        Check.granted(x, "name 0", x.rumour(0, 0, 0, -1, 0, -1, 0, -1, 0), 5);
         x.fact(0, 3, 7, true);
         Check.due("another value is known", x.fits(3), 1);
         Check.due("not told", x.fits(2), -3);

@@ -264,6 +264,13 @@ public final class EditionTest {
         Check.refused(x, "not wrong", x.correct(0, 1), 5);
         x.fact(0, 1, 5, true);
         Check.due("the same value", x.wrong(0), 0);
+        x.fact(0, 0, 5, false);
+        x.fact(0, 9, 5, false);
+        Check.paragraph(x, 0, 1, -1, "{k0}{k9}");
+        x.edition(0, 100, false);
+        x.fact(0, 0, 6, false);
+        x.fact(0, 9, 6, false);
+        Check.due("of every kind", x.wrong(2), 513);
     }
 
     private static void room() {

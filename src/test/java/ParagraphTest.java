@@ -6,6 +6,7 @@ public final class ParagraphTest {
         formFaults();
         nameFaults();
         manyFaults();
+        readAnew();
         refusals();
         rewrites();
         faultAndWhere();
@@ -82,6 +83,7 @@ public final class ParagraphTest {
         Check.prints("{if 1=1:{if 1=1:{if 1=1:{if 1=1:{if 1=1:x}}}}}y", "xy");
         Check.prints("{if dead:a}{if 1=1:b}{if dead:c|d}", "bd");
         Check.prints("():,;<>=+-", "():,;<>=+-");
+        Check.prints("{if 1=1 and 1=2:y|n}{if 1=1 or 1=2:y|n}{if not 1=1 and 1=1:y|n}", "nyn");
     }
 
     private static void formFaults() {
@@ -147,6 +149,7 @@ public final class ParagraphTest {
         Check.faulty("{if dead|x}", 1, 8);
         Check.faulty("{if dead:|x}", 1, 9);
         Check.faulty("{if dead:x|", 1, 11);
+        Check.faulty("{if dead:x|}", 1, 11);
         Check.faulty("{if dead:x", 1, 10);
         Check.faulty("{if dead:", 1, 9);
         Check.faulty("{if dead:x}}", 1, 11);
@@ -157,6 +160,11 @@ public final class ParagraphTest {
 
     private static void nameFaults() {
         Check.faulty("{heat}", 2, 1);
+        Check.faulty("{zeta}", 2, 1);
+        Check.faulty("{azaz}", 2, 1);
+        Check.faulty("{xge}", 2, 1);
+        Check.faulty("{agx}", 2, 1);
+        Check.faulty("{xorth}", 2, 1);
         Check.faulty("{  heat}", 2, 3);
         Check.faulty("{k}", 2, 1);
         Check.faulty("{k 1}", 2, 1);
@@ -202,6 +210,20 @@ public final class ParagraphTest {
         Check.granted(x, "thirty terms", Check.paragraph(x, 0, 1, -1, thirty + "}{if has k1 or stale k2:x}"), 1);
         Check.due("kinds of questions count too", x.paragraphOf(0, 1, 4), 6);
         Check.granted(x, "five again", Check.paragraph(x, 0, 1, -1, five + "a}}}}}" + five + "a}}}}}"), 2);
+    }
+
+    /** Nothing of a text that had a fault is left for the next one. */
+    private static void readAnew() {
+        LivesAhead x = desk();
+        Check.paragraph(x, 0, 1, -1, "{if k1 > 1 or dead:a|{if dead:b|c" + "{1+1}".repeat(4));
+        Check.refused(x, "nothing is open", Check.paragraph(x, 0, 1, -1, "a}"), 4);
+        Check.due("nothing is open", x.where(), 1);
+        Check.granted(x, "one if", Check.paragraph(x, 0, 1, -1, "{if dead:x|y}{if 1=1 and 2=2:z}"), 0);
+        Check.due("its kinds", x.paragraphOf(0, 0, 4), 0);
+        Check.due("its pieces", x.paragraphOf(0, 0, 5), 5);
+        Check.due("it prints", Check.printed(x, 0, 0), "yz");
+        Check.rule(x, "kin > 1 or kin >");
+        Check.granted(x, "a rule anew", Check.rule(x, "kin > 1 and kin > 2"), 1);
     }
 
     private static void refusals() {
@@ -325,7 +347,12 @@ public final class ParagraphTest {
         LivesAhead x = desk();
         x.person(3, 1, 1, 0);
         x.person(3, 365, 1, 0);
+        x.fact(0, 0, 4, false);
+        Check.paragraph(x, 0, 1, -1, "{if has k0:{k0}|no}");
         Check.paragraph(x, 1, 1, -1, "{born} {age} {year} {worth}");
+        Check.paragraph(x, 1, 1, -1, "{if has k0:{k0}|no}");
+        Check.due("has", Check.printed(x, 0, 0), "4");
+        Check.due("another has not", Check.printed(x, 1, 1), "no");
         Check.paragraph(x, 2, 1, -1, "{born}");
         Check.paragraph(x, 3, 1, -1, "{born}");
         Check.due("born 366 days ahead", Check.printed(x, 1, 0), "98 1 100 7");

@@ -76,6 +76,14 @@ public final class PeopleTest {
         x.writer(1);
         Check.granted(x, "with another one", x.bury(2), 6);
         Check.due("all go on", x.about(5, 3), 4);
+        LivesAhead y = new LivesAhead();
+        y.writer(1);
+        y.writer(1);
+        y.writer(1);
+        y.person(1, 1, 1, 0);
+        y.person(1, 1, 1, 2);
+        Check.granted(y, "to one without any", y.bury(2), 1);
+        Check.due("the first person's writer has one", y.about(1, 3), 1);
     }
 
     private static void peopleAndAbout() {
@@ -212,6 +220,7 @@ public final class PeopleTest {
         x.person(5, 1, 1, 0);
         x.person(5, 1, 1, 0);
         Check.due("alike", x.alike(0), 2);
+        Check.due("alike of the others", x.alike(3), 2);
         Check.due("alone", x.alike(1), 0);
         Check.due("alike of nobody", x.alike(4), -1);
         Check.due("alike of nobody", x.alike(-1), -1);
@@ -228,6 +237,9 @@ public final class PeopleTest {
         Check.due("by the least", x.apart(2, 0), 3);
         x.fact(2, 3, 0, false);
         Check.due("as known now", x.apart(2, 0), 8);
+        x.fact(0, 0, 1, false);
+        x.fact(2, 0, 2, false);
+        Check.due("kind 0 too", x.apart(2, 0), 0);
         Check.due("one and itself", x.apart(0, 0), -2);
         Check.due("nobody", x.apart(0, 4), -1);
         Check.due("nobody", x.apart(-1, 0), -1);

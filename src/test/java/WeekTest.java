@@ -122,8 +122,11 @@ public final class WeekTest {
         weekIs(x, 99 + 11 * 5, 24, 1, 2, 3, 4, 5, 6, 7, 8, 9, 10, 11, 13);
         x.hours(0, 3);
         weekIs(x, 99, 2, 13);
-        LivesAhead y = desk(4, new int[13], new int[13], new int[13]);
-        Check.due("bad people", y.count(0), 0);
+        worth[0] = 5;
+        worth[1] = 1;
+        worth[2] = 2;
+        LivesAhead y = desk(60, born, worth, stale);
+        weekIs(y, 99 + 11 * 5, 24, 0, 3, 4, 5, 6, 7, 8, 9, 10, 11, 12, 13);
     }
 
     private static void freshened() {
