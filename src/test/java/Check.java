@@ -1,20 +1,47 @@
+import java.util.ArrayList;
+import java.util.List;
 import java.util.NoSuchElementException;
+import java.util.function.Supplier;
+import java.util.function.ToIntBiFunction;
 
 /** What the tests share: a call whose answer is not the one that is due is printed, and the test ends with 1. */
 final class Check {
     static final int UNKNOWN = Integer.MIN_VALUE;
 
+    /** A sentence of the document, by its promise or term, and how many answers were asked ahead of its test. */
+    record Sentence(String from, String words, int askedAhead) { }
+
+    private static final List<Sentence> SENTENCES = new ArrayList<>();
     private static int asked = 0;
     private static int wrong = 0;
+    private static String within = "";
 
     private Check() {
+    }
+
+    /** What is asked from here on holds this sentence: "II" is from a term, "2" from a promise. */
+    static void sentence(String from, String words) {
+        SENTENCES.add(new Sentence(from, words, asked));
+        within = from + " '" + words + "': ";
+    }
+
+    static List<Sentence> sentences() {
+        return SENTENCES;
+    }
+
+    static int asked() {
+        return asked;
+    }
+
+    private static void wrong(String told) {
+        wrong++;
+        System.out.println(within + told);
     }
 
     static void due(String what, long got, long want) {
         asked++;
         if (got != want) {
-            wrong++;
-            System.out.println(what + " answered " + got + ", due is " + want);
+            wrong(what + " answered " + got + ", due is " + want);
         }
     }
 
@@ -25,8 +52,7 @@ final class Check {
     static void due(String what, String got, String want) {
         asked++;
         if (!got.equals(want)) {
-            wrong++;
-            System.out.println(what + " answered '" + got + "', due is '" + want + "'");
+            wrong(what + " answered '" + got + "', due is '" + want + "'");
         }
     }
 
@@ -49,6 +75,35 @@ final class Check {
     static void granted(LivesAhead x, String what, boolean got) {
         due(what, got, true);
         due(what + ": trouble", x.trouble(), 0);
+    }
+
+    /** A number is granted from the least to the most and refused by a trouble outside; each on a desk of its own. */
+    static void bounds(Supplier<LivesAhead> desk, int least, int most, int trouble,
+            ToIntBiFunction<LivesAhead, Integer> call) {
+        for (int number : new int[] {least, most}) {
+            LivesAhead x = desk.get();
+            due(number + " isn't refused", call.applyAsInt(x, number) != LivesAhead.NONE, true);
+            due(number + ": trouble", x.trouble(), 0);
+        }
+        for (int number : new int[] {Integer.MIN_VALUE, least - 1, most + 1, Integer.MAX_VALUE}) {
+            LivesAhead x = desk.get();
+            refused(x, String.valueOf(number), call.applyAsInt(x, number), trouble);
+        }
+    }
+
+    static int asNumber(boolean granted) {
+        return granted ? 1 : LivesAhead.NONE;
+    }
+
+    /** Lets the time go by up to a minute of a day that is not past. */
+    static void until(LivesAhead x, int day, int minute) {
+        int left = (day - x.count(10)) * 1440 + minute - x.count(11);
+        for (; left > 100000; left -= 100000) {
+            x.pass(100000);
+        }
+        if (left > 0) {
+            x.pass(left);
+        }
     }
 
     static void feed(LivesAhead x, String text) {
