@@ -77,6 +77,12 @@ final class DeathEdges {
     }
 
     private static void withdrawn() {
+        Check.sentence("V", "as of NOW;");
+        LivesAhead then = deskOn(2);
+        then.report(0, 0, 0);
+        then.pass(60);
+        Check.rule(then, "hours = 1");
+        Check.due("told now, whatever day it tells", then.may(0), 1);
         Check.sentence("V", "one may be withdrawn.");
         LivesAhead x = desk();
         Check.rule(x, "kin>0");
@@ -467,6 +473,21 @@ final class DeathEdges {
     }
 
     private static void rumourCall() {
+        Check.sentence("29", "A REPORT of a NAME with up to 3 KINDS and values");
+        LivesAhead many = desk();
+        Check.granted(many, "without any", rumour(many, 8, 0, 0), 0);
+        Check.granted(many, "with one", many.rumour(8, 0, 0, 0, 9999, -1, 0, -1, 0), 1);
+        Check.granted(many, "with two", many.rumour(8, 0, 0, 0, 9999, 9, -9999, -1, 0), 2);
+        Check.granted(many, "with three", many.rumour(8, 0, 0, 0, 9999, 9, -9999, 5, 0), 3);
+        many.fact(2, 5, 1, false);
+        Check.due("with two", many.fits(2), 2);
+        Check.due("with three", many.fits(3), -2);
+        many.fact(2, 9, 9999, false);
+        Check.due("with one", many.fits(1), 2);
+        Check.due("with two", many.fits(2), -2);
+        many.fact(2, 0, -9999, false);
+        Check.due("without any", many.fits(0), 2);
+        Check.due("with one", many.fits(1), -2);
         Check.sentence("29", "NONE: 2; 3.");
         Check.bounds(DeathEdges::desk, 0, 99, 2, (x, n) -> rumour(x, n, 0, 0));
         Check.bounds(DeathEdges::desk, 0, 0, 2, (x, n) -> rumour(x, 7, n, 0));

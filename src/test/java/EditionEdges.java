@@ -98,6 +98,17 @@ final class EditionEdges {
     }
 
     private static void quoteTimes() {
+        Check.sentence("VI", "QUOTES: asked of somebody for a story NOW,");
+        LivesAhead asked = desk();
+        asked.ask(0, 10);
+        asked.pass(5);
+        asked.ask(0, 10);
+        asked.ask(1, 10);
+        asked.pass(6);
+        Check.due("the first came too late", asked.answer(0, 1), 0);
+        Check.due("the second was asked later", asked.answer(1, 2), 1);
+        Check.due("for another story", asked.answer(2, 4), 1);
+        Check.due("for its story alone", laid(asked, 100, 2), 2);
         Check.sentence("VI", "wanted in so many MINUTES (1 .. 1,440)");
         Check.bounds(EditionEdges::desk, 1, 1440, 2, (x, n) -> x.ask(0, n));
         Check.sentence("VI", "answered with so many bytes (1 .. 400) or not");

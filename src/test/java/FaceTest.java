@@ -92,6 +92,18 @@ public final class FaceTest {
         }
     }
 
+    /** The document says what stands ahead of which calls. */
+    private static void parts(String source) {
+        int at = 0;
+        for (String told : List.of("---- people and facts", "int writer(", "int apart(", "---- paragraphs", "int feed(",
+            "int cutLong(", "---- deaths", "int rule(", "int tell(", "---- pictures, quotes, editions", "int picture(",
+            "int said(", "---- weeks", "int week(", "int trouble(")) {
+            int next = source.indexOf(told, at);
+            Check.due("'" + told + "' stands behind the one ahead of it", next > at, true);
+            at = Math.max(at, next);
+        }
+    }
+
     private static void words(String source) {
         for (String never : NEVER) {
             Check.due("the program has '" + never + "'", source.contains(never), false);
@@ -104,6 +116,7 @@ public final class FaceTest {
         }
         Check.due("imports", imports.toString(),
             "java.util.ArrayList;java.util.Arrays;java.util.NoSuchElementException;");
+        parts(source);
         for (int i = 0; i < source.length(); i++) {
             if (source.charAt(i) > 126) {
                 Check.due("a sign beyond 126 at " + i, source.charAt(i), 126);

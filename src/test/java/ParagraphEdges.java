@@ -346,6 +346,15 @@ final class ParagraphEdges {
     // ---- term III: what is printed
 
     private static void sums() {
+        Check.sentence("III", "PRINTED for a PERSON on a DAY: bytes as they are;");
+        StringBuilder all = new StringBuilder();
+        for (char c = 32; c < 127; c++) {
+            all.append("{|}".indexOf(c) < 0 ? String.valueOf(c) : "");
+        }
+        Check.prints(all.toString(), all.toString());
+        Check.sentence("III", "{ if } what it tells.");
+        Check.prints("a{if 1=2:b}c{if 1=2:d|{if 1=1:{k1}|e}f}g", "ac5fg");
+        Check.prints("{if 1=2:b}", "");
         Check.sentence("III", "{ SUM } in decimal (- ahead below 0)");
         Check.prints("{0}{1-1}", "00");
         Check.prints("{0-1} {0-10} {9-109}", "-1 -10 -100");
@@ -487,6 +496,16 @@ final class ParagraphEdges {
     private static void cutLengths() {
         Check.sentence("IV", "CUT to a length (0 .. 4,000)");
         Check.bounds(ParagraphEdges::desk, 0, 4000, 2, (x, n) -> x.cut(0, n, false));
+        Check.sentence("IV", "of a story the PARAGRAPHS with the most WORTH together");
+        LivesAhead most = desk();
+        Check.paragraph(most, 0, 6, -1, "abcd");
+        Check.paragraph(most, 0, 4, -1, "a");
+        Check.paragraph(most, 0, 3, -1, "b");
+        Check.paragraph(most, 1, 99, -1, "c");
+        cutIs(most, 1, 4, 2, 1);
+        cutIs(most, 4, 7, 6, 3);
+        cutIs(most, 6, 10, 3, 6);
+        cutIs(most, 8, 13, 7, 8);
         Check.sentence("IV", "that are no longer together (a byte more for each behind the first)");
         LivesAhead x = desk();
         cutIs(x, 0, 0, 0, 0);
