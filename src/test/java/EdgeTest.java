@@ -1,9 +1,11 @@
 import java.io.IOException;
 import java.nio.file.Files;
 import java.nio.file.Path;
+import java.util.Arrays;
 import java.util.LinkedHashMap;
 import java.util.List;
 import java.util.Map;
+import java.util.Set;
 
 /**
  * The document read over, sentence by sentence: each one that names a bound, an empty or a full desk, a tie or a refused
@@ -12,6 +14,13 @@ import java.util.Map;
  */
 public final class EdgeTest {
     private static final List<String> TERMS = List.of("I", "II", "III", "IV", "V", "VI", "VII", "VIII");
+
+    // What no quote holds: headings, and what other sentences tell (the WRITER of a PERSON, the number of a rumour).
+    private static final Set<String> BESIDE = Set.of("BOUNDS", "A PERSON", "a WRITER", "A FACT of a PERSON",
+        "PARAGRAPHS (texts", "TOKENS there", "REPORTS", "PICTURES of a PERSON: WORTH", "WEEK", "its number",
+        "The constants", "and");
+
+    private static final char QUOTED = '\u0001';
 
     public static void main(String[] args) throws IOException {
         Path shared = Path.of(args.length > 1 ? args[1] : "../shared");
@@ -61,6 +70,26 @@ public final class EdgeTest {
         for (String part : parts.keySet()) {
             Check.due("a sentence of " + part, all.stream().anyMatch(s -> s.from().equals(part)), true);
         }
+        for (Map.Entry<String, String> part : parts.entrySet()) {
+            nothingLeftOut(part.getKey(), part.getValue(), all);
+        }
         System.out.println("EdgeTest: " + all.size() + " sentences");
+    }
+
+    /** Every word of a term or promise stands in some quote, but for headings, faces of calls and what is told elsewhere. */
+    private static void nothingLeftOut(String from, String part, List<Check.Sentence> all) {
+        char[] left = part.toCharArray();
+        for (Check.Sentence one : all) {
+            int at = one.from().equals(from) ? part.indexOf(one.words()) : -1;
+            while (at >= 0) {
+                Arrays.fill(left, at, at + one.words().length(), QUOTED);
+                at = part.indexOf(one.words(), at + 1);
+            }
+        }
+        String rest = new String(left).replaceAll("^ ## Promise [0-9]+: [^`]*`[^`]*`: |^ [IV]+\\. |```(text)?", "");
+        for (String piece : rest.split(QUOTED + "+|Ahead of the calls .* the interface says: .*")) {
+            String words = piece.replaceAll("^[ .,;:()]+|[ .,;:()]+$", "");
+            Check.due(from + ": a sentence quotes '" + words + "'", words.isEmpty() || BESIDE.contains(words), true);
+        }
     }
 }
