@@ -488,6 +488,11 @@ final class DeathEdges {
         many.fact(2, 0, -9999, false);
         Check.due("without any", many.fits(0), 2);
         Check.due("with one", many.fits(1), -2);
+        Check.sentence("29", "its number.");
+        many.report(0, 0, 0);
+        Check.granted(many, "behind other reports", rumour(many, 8, 0, 0), 5);
+        Check.refused(many, "refused, it takes none", rumour(many, 100, 0, 0), 2);
+        Check.granted(many, "the next", rumour(many, 99, 0, 0), 6);
         Check.sentence("29", "NONE: 2; 3.");
         Check.bounds(DeathEdges::desk, 0, 99, 2, (x, n) -> rumour(x, n, 0, 0));
         Check.bounds(DeathEdges::desk, 0, 0, 2, (x, n) -> rumour(x, 7, n, 0));

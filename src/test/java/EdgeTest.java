@@ -15,10 +15,9 @@ import java.util.Set;
 public final class EdgeTest {
     private static final List<String> TERMS = List.of("I", "II", "III", "IV", "V", "VI", "VII", "VIII");
 
-    // What no quote holds: headings, and what other sentences tell (the WRITER of a PERSON, the number of a rumour).
-    private static final Set<String> BESIDE = Set.of("BOUNDS", "A PERSON", "a WRITER", "A FACT of a PERSON",
-        "PARAGRAPHS (texts", "TOKENS there", "REPORTS", "PICTURES of a PERSON: WORTH", "WEEK", "its number",
-        "The constants", "and");
+    // What no quote holds: headings, and what joins two quotes.
+    private static final Set<String> BESIDE = Set.of("BOUNDS", "A PERSON", "A FACT of a PERSON", "PARAGRAPHS (texts",
+        "TOKENS there", "REPORTS", "WEEK", "The constants", "and");
 
     private static final char QUOTED = '\u0001';
 
@@ -76,7 +75,7 @@ public final class EdgeTest {
         System.out.println("EdgeTest: " + all.size() + " sentences");
     }
 
-    /** Every word of a term or promise stands in some quote, but for headings, faces of calls and what is told elsewhere. */
+    /** Every word of a term or promise stands in some quote, but for headings and the faces of calls. */
     private static void nothingLeftOut(String from, String part, List<Check.Sentence> all) {
         char[] left = part.toCharArray();
         for (Check.Sentence one : all) {

@@ -172,6 +172,13 @@ final class EditionEdges {
     }
 
     private static void pictureChosen() {
+        Check.sentence("VI", "PICTURES of a PERSON: WORTH,");
+        LivesAhead two = desk();
+        two.picture(1, 2, 0, 9, 9);
+        two.picture(0, 1, 0, 9, 9);
+        Check.due("of its own, though another's has more worth", laid(two, 200, 4), 1);
+        two.picture(0, 2, 0, 9, 9);
+        Check.due("of more worth", laid(two, 200, 4), 2);
         Check.sentence("VI", "the PICTURE (of those that may be, the most WORTH, of as good ones the least number;");
         LivesAhead x = desk();
         Check.due("none", laid(x, 200, 4), -2);

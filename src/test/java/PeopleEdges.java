@@ -98,6 +98,12 @@ final class PeopleEdges {
         Check.bounds(desk, 1, 36500, 2, (x, n) -> x.person(0, n, 1, 0));
         Check.sentence("II", "WORTH (1 .. 100)");
         Check.bounds(desk, 1, 100, 2, (x, n) -> x.person(0, 1, n, 0));
+        Check.sentence("II", "a WRITER.");
+        LivesAhead two = deskOf(0);
+        two.writer(1);
+        two.person(0, 1, 1, 1);
+        two.person(0, 1, 1, 0);
+        Check.due("each has its own", two.about(0, 3) * 10 + two.about(1, 3), 10);
         Check.sentence("II", "those with one are ALIKE");
         LivesAhead x = desk();
         x.person(0, 1, 1, 0);
